@@ -61,7 +61,7 @@ public final class LidsAndCombs {
         if (!isWithin(v, 0, MOST_V) || !isSeat(seat) || !isLoud(loud) || !isPace(pace)) {
             return BAD;
         }
-        return now.players >= MOST_PLAYERS ? FULL : now.join(kind, v, seat, loud, pace);
+        return now.join(kind, v, seat, loud, pace);
     }
 
     public int of(int player, int what) {
@@ -117,14 +117,11 @@ public final class LidsAndCombs {
     }
 
     public int feed(int sign) {
-        if (!isWithin(sign, 0, LAST_SIGN)) {
-            return BAD;
-        }
-        return text.size >= MOST_TEXT ? FULL : text.append(sign);
+        return isWithin(sign, 0, LAST_SIGN) ? text.append(sign) : BAD;
     }
 
     public int kitchen() {
-        if (!isWithin(kitchenCount, 0, MOST_KITCHENS - 1)) {
+        if (kitchenCount >= MOST_KITCHENS) {
             return FULL;
         }
         Kitchen read = kitchens[kitchenCount];
@@ -186,12 +183,12 @@ public final class LidsAndCombs {
 
     public int wakes() {
         foresight.begin();
-        return foresight.wakesBy(FURTHEST);
+        return foresight.wakesBy(FURTHEST, NOBODY);
     }
 
     public int settles() {
         foresight.begin();
-        return foresight.settlesBy(FURTHEST);
+        return foresight.settlesBy(FURTHEST, NOBODY);
     }
 
     public int leader(int n) {
@@ -240,8 +237,8 @@ public final class LidsAndCombs {
             return NONE;
         }
         switch (what) {
-            case 0: return foresight.howManyLoud(player, seen);
-            case 1: return foresight.leastLoud(player, seen);
+            case 0: return foresight.soLoud(player, seen, false);
+            case 1: return foresight.soLoud(player, seen, true);
             default: return NONE;
         }
     }
@@ -528,10 +525,9 @@ public final class LidsAndCombs {
             return isWithin(player, 0, players - 1);
         }
 
-        /** The caller has looked that there is room. */
         int join(int ofKind, int ofV, int atSeat, int soLoud, int atPace) {
             int number = players;
-            if (!isWithin(number, 0, MOST_PLAYERS - 1)) {
+            if (number >= MOST_PLAYERS) {
                 return FULL;
             }
             kind[number] = ofKind;
@@ -539,11 +535,6 @@ public final class LidsAndCombs {
             seat[number] = atSeat;
             loud[number] = soLoud;
             pace[number] = atPace;
-            // After an undo the place may still bear what an earlier player was told.
-            for (int part = 0; part < ROW_PARTS; part++) {
-                rows[number * ROW_PARTS + part] = 0;
-            }
-            keepStill(number, false);
             players++;
             return number;
         }
@@ -606,29 +597,28 @@ public final class LidsAndCombs {
         }
 
         private int goalOf(int i) {
+            int whom = followed[i];
+            int theirs = whom >= 0 && whom < players ? pace[whom] : pace[i];
             switch (kind[i]) {
                 case DEAF:
                 case BUCKET:
                     return pace[i];
                 case EAGER:
                 case SHINING:
-                    return paceFollowed(i) + v[i];
+                    return theirs + v[i];
                 case LITTLE:
-                    return goalOfLittle(i);
+                    return isOwnTurn(i) ? pace[i] : theirs;
                 case TOLD:
-                    return goalOfLittle(i) + rows[i * ROW_PARTS + (beat & 3)];
+                    return (isOwnTurn(i) ? pace[i] : theirs) + rows[i * ROW_PARTS + (beat & 3)];
                 default:
-                    return paceFollowed(i);
+                    return theirs;
             }
         }
 
-        private int goalOfLittle(int i) {
+        /** Whether a LITTLE one goes by its own pace at this beat. */
+        private boolean isOwnTurn(int i) {
             int period = v[i] + 2;
-            return period > 0 && beat % period == 0 ? pace[i] : paceFollowed(i);
-        }
-
-        private int paceFollowed(int i) {
-            return has(followed[i]) ? pace[followed[i]] : pace[i];
+            return period > 0 && beat % period == 0;
         }
 
         void go(int beats) {
@@ -721,21 +711,25 @@ public final class LidsAndCombs {
 
     /** The clauses of a text that was read; one that nothing was read into has none. */
     private static final class Kitchen {
-        int step = 2;
-        int wake = 60;
-        int pay = 5;
-        private int clauses = 0;
+        int step;
+        int wake;
+        int pay;
+        private int clauses;
         /** Below 0 for softer. */
         private final int[] amount = new int[MOST_CLAUSES];
         /** Behind which of the marks a clause's condition ends. */
         private final int[] end = new int[MOST_CLAUSES];
         // Conditions stand as marks behind what they join: a TEST's letter, or one of ! & |.
-        private int marks = 0;
+        private int marks;
         private final int[] mark = new int[MOST_TEXT];
         private final int[] relation = new int[MOST_TEXT];
         private final int[] number = new int[MOST_TEXT];
 
-        /** A text that had a fault may have left clauses here. */
+        Kitchen() {
+            clear();
+        }
+
+        /** Also ahead of each reading: a text that had a fault may have left clauses here. */
         void clear() {
             step = 2;
             wake = 60;
@@ -813,12 +807,12 @@ public final class LidsAndCombs {
         private final int[] signs = new int[MOST_TEXT];
         private int number = 0;
 
-        /** The caller has looked that there is room. */
         int append(int sign) {
-            if (isWithin(size, 0, MOST_TEXT - 1)) {
-                signs[size] = sign;
-                size++;
+            if (size >= MOST_TEXT) {
+                return FULL;
             }
+            signs[size] = sign;
+            size++;
             return size;
         }
 
@@ -836,16 +830,12 @@ public final class LidsAndCombs {
             return place == size;
         }
 
-        private int here() {
-            return signAt(place);
-        }
-
         private int signAt(int at) {
             return at >= 0 && at < size && at < MOST_TEXT ? signs[at] : NO_SIGN;
         }
 
         private boolean takes(int sign) {
-            if (here() != sign) {
+            if (signAt(place) != sign) {
                 return false;
             }
             place++;
@@ -869,7 +859,7 @@ public final class LidsAndCombs {
                     into.pay = Math.max(1, n);
                     return true;
                 default:
-                    if (!takes(' ') || !readsEither(into, 0)) {
+                    if (!takes(' ') || !readsJoined(into, '|', 0)) {
                         return false;
                     }
                     into.addClause(word == LOUDER ? n : -n);
@@ -879,7 +869,7 @@ public final class LidsAndCombs {
 
         /** Which word can begin here: two words begin with s, and the next sign tells them apart. */
         private int wordHere() {
-            switch (here()) {
+            switch (signAt(place)) {
                 case 'l': return LOUDER;
                 case 's': return signAt(place + 1) == 't' ? STEP : SOFTER;
                 case 'w': return WAKE;
@@ -912,13 +902,13 @@ public final class LidsAndCombs {
         }
 
         private boolean readsNumber() {
-            if (!isDigit(here())) {
+            if (!isDigit(signAt(place))) {
                 return false;
             }
-            number = here() - '0';
+            number = signAt(place) - '0';
             place++;
-            if (isDigit(here())) {
-                number = number * 10 + here() - '0';
+            if (isDigit(signAt(place))) {
+                number = number * 10 + signAt(place) - '0';
                 place++;
             }
             return true;
@@ -928,37 +918,23 @@ public final class LidsAndCombs {
             return sign >= '0' && sign <= '9';
         }
 
-        /** E: parts with | between. */
-        private boolean readsEither(Kitchen into, int depth) {
-            if (!readsBoth(into, depth)) {
-                return false;
-            }
-            for (int k = 0; k < MOST_TEXT && takes('|'); k++) {
-                if (!readsBoth(into, depth)) {
+        /** E, the parts with | between; each of these is T, the parts with & between. */
+        private boolean readsJoined(Kitchen into, int sign, int depth) {
+            for (int k = 0; k < MOST_TEXT && (k == 0 || takes(sign)); k++) {
+                boolean isRead = sign == '|' ? readsJoined(into, '&', depth) : readsPart(into, depth);
+                if (!isRead) {
                     return false;
                 }
-                into.addMark('|', 0, 0);
-            }
-            return true;
-        }
-
-        /** T: parts with & between. */
-        private boolean readsBoth(Kitchen into, int depth) {
-            if (!readsPart(into, depth)) {
-                return false;
-            }
-            for (int k = 0; k < MOST_TEXT && takes('&'); k++) {
-                if (!readsPart(into, depth)) {
-                    return false;
+                if (k > 0) {
+                    into.addMark(sign, 0, 0);
                 }
-                into.addMark('&', 0, 0);
             }
             return true;
         }
 
         /** F; depth is within how many ( and ! it stands. */
         private boolean readsPart(Kitchen into, int depth) {
-            boolean isDeeper = here() == '!' || here() == '(';
+            boolean isDeeper = signAt(place) == '!' || signAt(place) == '(';
             if (!isDeeper) {
                 return readsTest(into);
             }
@@ -966,7 +942,7 @@ public final class LidsAndCombs {
                 return false;
             }
             if (takes('(')) {
-                return readsEither(into, depth + 1) && takes(')');
+                return readsJoined(into, '|', depth + 1) && takes(')');
             }
             place++;
             if (!readsPart(into, depth + 1)) {
@@ -977,12 +953,12 @@ public final class LidsAndCombs {
         }
 
         private boolean readsTest(Kitchen into) {
-            int letter = here();
+            int letter = signAt(place);
             if (!isLetter(letter)) {
                 return false;
             }
             place++;
-            int related = here();
+            int related = signAt(place);
             if (related != '<' && related != '=' && related != '>') {
                 return false;
             }
@@ -1040,7 +1016,7 @@ public final class LidsAndCombs {
 
     /** All that is asked of what comes: it goes on a table of its own, so that asking changes nothing. */
     private static final class Foresight {
-        private static final int NOT_BY_THEN = FURTHEST + 1;
+        private static final int MORE_THAN_ANY = FURTHEST + 1;
 
         private final Table now;
         private final Table ahead;
@@ -1060,7 +1036,7 @@ public final class LidsAndCombs {
             return ahead;
         }
 
-        int settlesBy(int last) {
+        int settlesBy(int last, int notByThen) {
             for (int n = 0; n <= last; n++) {
                 if (n > 0) {
                     ahead.beatGoes();
@@ -1069,10 +1045,10 @@ public final class LidsAndCombs {
                     return n;
                 }
             }
-            return NOBODY;
+            return notByThen;
         }
 
-        int wakesBy(int last) {
+        int wakesBy(int last, int notByThen) {
             for (int n = 0; n <= last; n++) {
                 if (n > 0) {
                     ahead.beatGoes();
@@ -1081,13 +1057,12 @@ public final class LidsAndCombs {
                     return n;
                 }
             }
-            return NOBODY;
+            return notByThen;
         }
 
         int bestChangeOfSeats() {
             begin();
-            int settles = settlesBy(FURTHEST);
-            int least = settles == NOBODY ? NOT_BY_THEN : settles;
+            int least = settlesBy(FURTHEST, MORE_THAN_ANY);
             int two = NOBODY;
             for (int i = 0; i < now.players; i++) {
                 for (int j = i + 1; j < now.players; j++) {
@@ -1095,8 +1070,8 @@ public final class LidsAndCombs {
                     ahead.seat[i] = now.seat[j];
                     ahead.seat[j] = now.seat[i];
                     // Only what is less than the least so far is of use.
-                    settles = settlesBy(least - 1);
-                    if (settles != NOBODY) {
+                    int settles = settlesBy(least - 1, MORE_THAN_ANY);
+                    if (settles < least) {
                         least = settles;
                         two = 10 * i + j;
                     }
@@ -1107,7 +1082,7 @@ public final class LidsAndCombs {
 
         int bestToBeStill() {
             begin();
-            int greatest = wakesOrMore();
+            int greatest = wakesBy(FURTHEST, MORE_THAN_ANY);
             int who = NOBODY;
             for (int i = 0; i < now.players; i++) {
                 if (now.isStill(i)) {
@@ -1115,7 +1090,7 @@ public final class LidsAndCombs {
                 }
                 begin();
                 ahead.keepStill(i, true);
-                int wakes = wakesOrMore();
+                int wakes = wakesBy(FURTHEST, MORE_THAN_ANY);
                 if (wakes > greatest) {
                     greatest = wakes;
                     who = i;
@@ -1124,16 +1099,11 @@ public final class LidsAndCombs {
             return who;
         }
 
-        private int wakesOrMore() {
-            int wakes = wakesBy(FURTHEST);
-            return wakes == NOBODY ? NOT_BY_THEN : wakes;
-        }
-
         int leastQuick(int player) {
             for (int pace = 10; pace <= MOST_PACE; pace += 10) {
                 begin();
                 ahead.pace[player] = pace;
-                if (settlesBy(FURTHEST_QUICK) != NOBODY) {
+                if (settlesBy(FURTHEST_QUICK, NOBODY) != NOBODY) {
                     return pace;
                 }
             }
@@ -1166,27 +1136,20 @@ public final class LidsAndCombs {
             return bits;
         }
 
-        int howManyLoud(int player, Rows seen) {
+        /** By how many numbers for LOUD all of SEEN is so, or the least of them. */
+        int soLoud(int player, Rows seen, boolean isLeast) {
             int many = 0;
             for (int loud = 0; loud <= MOST_LOUD; loud++) {
-                many += canBeSoLoud(player, loud, seen) ? 1 : 0;
-            }
-            return many;
-        }
-
-        int leastLoud(int player, Rows seen) {
-            for (int loud = 0; loud <= MOST_LOUD; loud++) {
-                if (canBeSoLoud(player, loud, seen)) {
-                    return loud;
+                begin();
+                ahead.loud[player] = loud;
+                if (allIsSo(seen)) {
+                    if (isLeast) {
+                        return loud;
+                    }
+                    many++;
                 }
             }
-            return NOBODY;
-        }
-
-        private boolean canBeSoLoud(int player, int loud, Rows seen) {
-            begin();
-            ahead.loud[player] = loud;
-            return allIsSo(seen);
+            return isLeast ? NOBODY : many;
         }
 
         private boolean allIsSo(Rows seen) {
@@ -1221,7 +1184,7 @@ public final class LidsAndCombs {
             for (int i = 0; i < now.players; i++) {
                 begin();
                 ahead.keepStill(i, true);
-                many += settlesBy(n) != NOBODY ? 1 : 0;
+                many += settlesBy(n, NOBODY) != NOBODY ? 1 : 0;
             }
             return many;
         }

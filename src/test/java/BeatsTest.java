@@ -9,6 +9,7 @@ public final class BeatsTest {
         earned();
         lastBeat();
         on();
+        onByKinds();
         wakes();
         settles();
         leader();
@@ -177,6 +178,30 @@ public final class BeatsTest {
         due("EARNED behind 3", x.on(3, 1), 30);
         due("one's loud", x.on(3, 20), 50);
         due("nobody's loud", x.on(3, 21), -1);
+    }
+
+    private static void onByKinds() {
+        LidsAndCombs x = new LidsAndCombs();
+        x.player(1, 0, 0, 90, 100);
+        x.player(2, 5, 0, 0, 50);
+        x.player(6, 1, 0, 0, 60);
+        x.player(5, 4, 0, 0, 70);
+        x.player(4, 0, 0, 0, 80);
+        x.player(3, 3, 0, 0, 90);
+        for (int part = 0; part < 4; part++) {
+            x.row(2, part, 5 + part);
+        }
+        Check.kitchen(x, "step 99;softer 20 p>0");
+        // TOLD takes its own at beats 0, 3, 6, LITTLE at 0 and 5; the others' way is one beat.
+        int[][] want = {
+            {100, 50, 60, 70, 80, 90}, {100, 105, 65, 104, 80, 90}, {100, 105, 106, 104, 80, 100},
+            {100, 105, 107, 104, 80, 100}, {100, 105, 115, 104, 80, 100}, {100, 105, 105, 104, 80, 100},
+        };
+        for (int n = 0; n < want.length; n++) {
+            for (int p = 0; p < 6; p++) {
+                due("on(" + n + ", 1" + p + ") of six kinds", x.on(n, 10 + p), want[n][p]);
+            }
+        }
     }
 
     private static void wakes() {

@@ -5,8 +5,11 @@ public final class BestTest {
     public static void main(String[] args) {
         seats();
         seatsOfSeveral();
+        seatsOfTheSecond();
+        seatsOneLess();
         whoHush();
         whoHushOfSeveral();
+        whoHushBehindSixty();
         quick();
         best();
         CHECK.end();
@@ -60,7 +63,7 @@ public final class BestTest {
     }
 
     private static void seatsOfSeveral() {
-        // 3 and 4 are deaf and of one pace; 5 alone follows one of another pace, who is still in the end.
+        // 2 and 3 sit too far from 0 and 1, who are deaf and of one pace.
         LidsAndCombs x = new LidsAndCombs();
         x.player(1, 0, 10, 90, 100);
         x.player(1, 0, 10, 90, 100);
@@ -73,6 +76,52 @@ public final class BestTest {
         due("0 and 1 are too far to be heard", x.settles(), -5);
         due("02, 03, 12 and 13 are alike", x.seats(), 2);
         due("by the words", x.seats(), settlesLeast(x));
+    }
+
+    /** 1 is deaf, and heard by 0 from 8 seats off or fewer; 2 is still. */
+    private static LidsAndCombs far(int seatOf0, int seatOf2, String kitchen) {
+        LidsAndCombs x = new LidsAndCombs();
+        x.player(0, 0, seatOf0, 0, 40);
+        x.player(1, 0, 10, 18, 100);
+        x.player(0, 0, seatOf2, 0, 7);
+        x.hush(2, true);
+        Check.kitchen(x, kitchen);
+        return x;
+    }
+
+    private static void seatsOfTheSecond() {
+        LidsAndCombs x = far(0, 1, "step 1;softer 9 p=0");
+        due("0 hears nobody", x.settles(), -5);
+        due("1 comes to where 2 is still: behind sixty beats", x.seats(), 12);
+        x.set(0, 2, 39);
+        due("behind sixty-one: no better", x.seats(), -5);
+        x = new LidsAndCombs();
+        x.player(0, 0, 1, 0, 7);
+        x.player(0, 0, 0, 0, 70);
+        x.player(1, 0, 10, 18, 100);
+        x.hush(0, true);
+        due("the greater number's seat counts too", x.seats(), 2);
+    }
+
+    private static void seatsOneLess() {
+        LidsAndCombs x = far(1, 2, "step 1;louder 1 p=1;softer 9 p=0");
+        x.set(0, 2, 90);
+        due("0 hears 1 behind one beat", x.settles(), 11);
+        due("where 2 sits at once", x.seats(), 2);
+    }
+
+    private static void whoHushBehindSixty() {
+        LidsAndCombs x = new LidsAndCombs();
+        x.player(0, 0, 0, 0, 100);
+        x.player(0, 0, 10, 0, 100);
+        Check.kitchen(x, "louder 1 p=1;softer 9 p=0");
+        due("1 alone", x.wakes(), 60);
+        due("one looks far ahead", x.on(60, 0), 60);
+        due("never without 1", x.whoHush(), 1);
+        x = new LidsAndCombs();
+        x.player(0, 0, 0, 0, 100);
+        Check.kitchen(x, "louder 1 p=0");
+        due("never without 0", x.whoHush(), 0);
     }
 
     private static void whoHush() {
@@ -127,6 +176,12 @@ public final class BestTest {
         x.set(1, 2, 150);
         due("whatever it is now", x.quick(1), 40);
         due("its pace is as it was", x.of(1, 4), 150);
+        Check.kitchen(x, "softer 3 p=1;step 1");
+        x.set(0, 2, 101);
+        due("70 wants 31, 80 wants 21", x.quick(1), 80);
+        x.set(0, 2, 100);
+        due("70 wants 30", x.quick(1), 70);
+        Check.kitchen(x, "softer 3 p=1");
         due("whom one follows: 90 for 150", x.quick(0), 90);
         x.set(0, 2, 20);
         due("the least is 10", x.quick(1), 10);

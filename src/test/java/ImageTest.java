@@ -28,6 +28,11 @@ public final class ImageTest {
         due("another comes", x.player(6, 1, 2, 30, 100), 0);
         due("with a row of its own", x.row(0, 0, 0), 0);
         due("not still", x.of(0, 5), 0);
+        x.row(0, 2, 8);
+        due("an image with a row", x.image(), 1);
+        x.row(0, 2, 3);
+        x.undo();
+        due("the row as it was", x.row(0, 2, 0), 8);
     }
 
     private static void all() {

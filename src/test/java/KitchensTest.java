@@ -6,6 +6,7 @@ public final class KitchensTest {
         feed();
         faults();
         clauses();
+        behindFaults();
         full();
         conditions();
         letters();
@@ -56,6 +57,8 @@ public final class KitchensTest {
         fault("step ", 5);
         fault("step  1", 5);
         fault("step -1", 5);
+        fault("ste 1", 3);
+        fault("loud 1 p=1", 4);
         fault("step 123", 7);
         fault("step 12 ", 7);
         fault("step 1;", 7);
@@ -112,6 +115,22 @@ public final class KitchensTest {
         due("its length", longest.length(), 100);
         due("a hundred signs", Check.kitchen(x, longest), 3);
         due("a hundred, too short", Check.kitchen(x, longest.substring(0, 99) + "|"), -10 - 100);
+    }
+
+    private static void behindFaults() {
+        LidsAndCombs x = new LidsAndCombs();
+        x.player(0, 0, 0, 0, 1);
+        for (int n = 0; n < 12; n++) {
+            Check.kitchen(x, "louder 5 p=0|p=0|p=0;step 9;wake 9;pay 9;softer 1 p=0&p=0|(p=0|p=0&!p=0)x");
+        }
+        due("a fault holds nothing: MORE", x.of(0, 10), 0);
+        due("a fault holds nothing: STEP", x.told(3), 2);
+        due("a kitchen behind faults", Check.kitchen(x, "louder 3 p=0|p=1;louder 4 p<1&p<2"), 0);
+        long[] want = {0, 0, 0, 2, 60, 5};
+        for (int what = 0; what < want.length; what++) {
+            due("behind faults: told(" + what + ")", x.told(what), want[what]);
+        }
+        due("behind faults: MORE", x.of(0, 10), 7);
     }
 
     private static void full() {

@@ -1,14 +1,22 @@
 import java.io.IOException;
+import java.io.PrintWriter;
+import java.io.StringWriter;
 import java.lang.reflect.Constructor;
 import java.lang.reflect.Field;
 import java.lang.reflect.Method;
 import java.lang.reflect.Modifier;
 import java.nio.file.Files;
 import java.nio.file.Path;
+import java.util.ArrayList;
+import java.util.HashMap;
+import java.util.HashSet;
+import java.util.List;
+import java.util.Map;
 import java.util.Set;
 import java.util.TreeSet;
 import java.util.regex.Matcher;
 import java.util.regex.Pattern;
+import java.util.spi.ToolProvider;
 
 /** What of LANGUAGE.md can be seen by a look at the source and at the class: rules 1, 2, 4, 5, 6 and 11. */
 public final class LanguageTest {
@@ -19,6 +27,7 @@ public final class LanguageTest {
         String source = Files.readString(SOURCE);
         words(source.replaceAll("/\\*\\*?(?s:.*?)\\*/", "").replaceAll("//.*", ""));
         face(source);
+        deep();
         CHECK.end();
     }
 
@@ -78,6 +87,54 @@ public final class LanguageTest {
             for (Method method : one.getDeclaredMethods()) {
                 CHECK.due(method + " has seven parameters at most", method.getParameterCount() <= 7);
                 CHECK.due(method + " bears no public name", !open.contains(method.getName()));
+            }
+        }
+    }
+
+    /** Rule 11: calls that are no recursion go at most eight deep, those to the library counted too. */
+    private static void deep() {
+        Map<String, Set<String>> calls = new HashMap<>();
+        Class<?>[] inside = LidsAndCombs.class.getDeclaredClasses();
+        read(LidsAndCombs.class.getName(), calls);
+        for (Class<?> one : inside) {
+            read(one.getName(), calls);
+        }
+        CHECK.due("javap tells the methods", calls.size() > 60);
+        for (String method : calls.keySet()) {
+            List<String> path = new ArrayList<>();
+            int deepest = deepest(method, calls, path);
+            CHECK.due(method + " goes " + deepest + " deep", deepest <= 8);
+        }
+    }
+
+    private static int deepest(String method, Map<String, Set<String>> calls, List<String> path) {
+        int deepest = 0;
+        path.add(method);
+        for (String next : calls.getOrDefault(method, Set.of())) {
+            if (!path.contains(next)) {
+                deepest = Math.max(deepest, deepest(next, calls, path));
+            }
+        }
+        path.remove(path.size() - 1);
+        return deepest + 1;
+    }
+
+    /** What each method of a class calls, by what javap shows. */
+    private static void read(String name, Map<String, Set<String>> calls) {
+        StringWriter out = new StringWriter();
+        ToolProvider javap = ToolProvider.findFirst("javap").orElseThrow();
+        javap.run(new PrintWriter(out), new PrintWriter(out), "-c", "-p", "-cp", System.getProperty("java.class.path"), name);
+        String method = null;
+        for (String line : out.toString().split("\n")) {
+            Matcher opens = Pattern.compile("^  \\S.*?([\\w$]+)\\(.*\\);").matcher(line);
+            Matcher call = Pattern.compile("// (?:Interface)?Method ([\\w/$]*\\.)?\"?([\\w<>]+)\"?:").matcher(line);
+            if (opens.find()) {
+                boolean makes = opens.group(1).equals(name);
+                method = name + "." + (makes ? "<init>" : opens.group(1));
+                calls.putIfAbsent(method, new HashSet<>());
+            } else if (method != null && call.find()) {
+                String owner = call.group(1) == null ? name + "." : call.group(1);
+                calls.get(method).add(owner + call.group(2));
             }
         }
     }

@@ -104,7 +104,11 @@ public final class SeenTest {
 
     private static void odds() {
         due("nobody", new LidsAndCombs().odds(0, 0), NO);
-        LidsAndCombs x = two();
+        LidsAndCombs x = new LidsAndCombs();
+        x.player(0, 0, 0, 0, 100);
+        due("of one: above", x.odds(0, 0), 1);
+        due("of one: below", x.odds(0, 1), 1);
+        x = two();
         int[][] none = {{-1, 0}, {31, 0}, {0, -1}, {0, 2}};
         for (int[] n : none) {
             due("odds(" + n[0] + ", " + n[1] + ")", x.odds(n[0], n[1]), NO);
@@ -140,7 +144,11 @@ public final class SeenTest {
 
     private static void mean() {
         due("nobody", new LidsAndCombs().mean(0, 0), NO);
-        LidsAndCombs x = two();
+        LidsAndCombs x = new LidsAndCombs();
+        x.player(0, 0, 0, 0, 77);
+        due("of one: above", x.mean(60, 0), 77);
+        due("of one: below", x.mean(60, 1), 1);
+        x = two();
         int[][] none = {{-1, 0}, {61, 0}, {0, -1}, {0, 2}};
         for (int[] n : none) {
             due("mean(" + n[0] + ", " + n[1] + ")", x.mean(n[0], n[1]), NO);
