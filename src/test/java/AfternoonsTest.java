@@ -25,6 +25,7 @@ public final class AfternoonsTest {
         due("empty", x.afternoon(-1, -9), 0);
         due("count(3)", x.count(3), 0);
         x.player(0, 0, 0, 30, 100);
+        due("afternoon(3, 0)", x.afternoon(3, 0), -1);
         due("afternoon(1, 1)", x.afternoon(1, 1), -1);
         due("afternoon(2, 1)", x.afternoon(2, 1), -1);
         due("afternoon(2, -1)", x.afternoon(2, -1), -1);

@@ -38,15 +38,21 @@ public final class ImageTest {
     private static void all() {
         LidsAndCombs x = PlayersTest.six();
         x.pass(3);
-        x.see(0, 1, 1);
-        x.afternoon(0, 0);
-        x.afternoon(1, 2);
-        x.book(1, 1);
-        x.book(1, 2);
-        x.book(1, 3);
         x.hush(4, true);
-        Check.kitchen(x, "wake 99;pay 1;softer 70 p<9");
+        Check.kitchen(x, "wake 99;pay 1;step 3;softer 70 p<4");
         x.pass(20);
+        x.set(0, 2, 50);
+        x.see(0, x.on(2, 10), 2);
+        x.see(1, 80, 1);
+        x.afternoon(0, 0);
+        x.afternoon(1, 5);
+        x.afternoon(0, 0);
+        x.book(1, x.of(1, 4));
+        x.book(2, x.of(2, 4));
+        x.book(3, 1);
+        due("0 goes on behind what is seen of it", x.on(2, 10) != x.on(3, 10) ? 1 : 0, 1);
+        due("all that is seen is so", x.who(), 31);
+        due("the book is so but for its last", x.looked(), 2);
         long[] before = probe(x);
         due("image()", x.image(), 6);
         for (int again = 0; again < 2; again++) {
@@ -58,11 +64,11 @@ public final class ImageTest {
             }
             x.see(-1, 0, 0);
             x.see(1, 2, 3);
-            x.see(1, 2, 3);
             x.afternoon(-1, 0);
-            x.afternoon(0, 0);
+            x.afternoon(1, 3);
+            x.afternoon(2, 2);
             x.book(-1, 0);
-            x.book(1, 9);
+            x.book(0, 9);
             Check.kitchen(x, "step 9");
             x.pass(5);
             due("undo()", x.undo(), 6);

@@ -137,6 +137,8 @@ public final class PlayersTest {
         due("alone: goal", x.of(0, 9), 100);
         x.player(0, 0, 10, 20, 60);
         due("20 loud across the ring is not heard", x.of(0, 7), -5);
+        x.set(1, 1, 5);
+        due("5 loud across the ring is heard by 0", x.of(0, 8), 0);
         x.set(1, 1, 21);
         due("21 loud across the ring is", x.of(0, 7), 1);
         due("by 1", x.of(0, 8), 1);

@@ -165,5 +165,11 @@ public final class SeenTest {
         x.set(3, 2, 4);
         due("155 / 4", x.mean(0, 0), 155);
         due("below 4", x.mean(0, 1), 4);
+        x.player(1, 0, 0, 0, 7);
+        x.player(1, 0, 0, 0, 6);
+        due("168 / 6", x.mean(0, 0), 28);
+        x.set(5, 2, 9);
+        due("171 / 6", x.mean(0, 0), 57);
+        due("below 2 of 6", x.mean(0, 1), 2);
     }
 }
