@@ -20,7 +20,7 @@ public final class MachineTest {
         Random random = new Random(5);
         for (int run = 0; run < 300; run++) {
             LidsAndCombs x = run % 2 == 0 ? new LidsAndCombs() : full(random);
-            for (int n = 0; n < 450; n++) {
+            for (int n = 0; n < 380; n++) {
                 call(x, random.nextInt(CALLS), random, EDGES);
             }
         }
@@ -30,10 +30,10 @@ public final class MachineTest {
     private static void asking() {
         Random random = new Random(7);
         int[] small = {-1, 0, 1, 2, 3, 4, 5, 6, 9, 10, 11, 20, 60, 61};
-        for (int run = 0; run < 60; run++) {
-            LidsAndCombs x = full(random);
-            long before = all(x);
+        for (int run = 0; run < 40; run++) {
             for (int call = FIRST_ASKING; call < CALLS; call++) {
+                LidsAndCombs x = full(random);
+                long before = all(x);
                 for (int n = 0; n < 3; n++) {
                     call(x, call, random, small);
                 }
@@ -45,19 +45,21 @@ public final class MachineTest {
     private static void room() {
         com.sun.management.ThreadMXBean threads = (com.sun.management.ThreadMXBean) ManagementFactory.getThreadMXBean();
         Random random = new Random(9);
-        LidsAndCombs x = full(random);
         int[] ints = {0, 1, 2, 3, 5, 8, 30};
-        for (int call = 0; call < CALLS; call++) {
-            call(x, call, random, ints);
+        LidsAndCombs[] objects = new LidsAndCombs[10];
+        for (int n = 0; n < objects.length; n++) {
+            objects[n] = full(random);
         }
-        long before = threads.getCurrentThreadAllocatedBytes();
-        for (int n = 0; n < 40; n++) {
-            for (int call = 0; call < CALLS; call++) {
-                call(x, call, random, ints);
+        // What the first calls take is the machine's own: classes and constants.
+        long before = 0;
+        for (int n = 0; n < objects.length; n++) {
+            before = n == 1 ? threads.getCurrentThreadAllocatedBytes() : before;
+            for (int call = 0; call < 10 * CALLS; call++) {
+                call(objects[n], call % CALLS, random, ints);
             }
         }
         long bytes = threads.getCurrentThreadAllocatedBytes() - before;
-        CHECK.due("room for 1480 calls: " + bytes + " bytes", bytes < 20000);
+        CHECK.due("room for 3330 calls: " + bytes + " bytes", bytes < 20000);
     }
 
     private static LidsAndCombs full(Random random) {

@@ -2,19 +2,23 @@ import java.util.Random;
 
 /** Random runs of calls, all promises mixed, each answer beside the model's. */
 public final class ModelTest {
-    private static final int RUNS = 500, CALLS = 480;
+    /** An object is promised for 512 calls; a run ends well ahead of that, as some steps make many calls. */
+    private static final int RUNS = 600, CALLS = 330;
 
     private final Check check;
     private final Random random;
     private final LidsAndCombs x = new LidsAndCombs();
     private final Model model = new Model();
     private final String run;
+    /** In every other run most are of kind 0 and not loud: it settles, and she does not wake at once. */
+    private final boolean calm;
     private int calls = 0;
 
     private ModelTest(Check check, int seed) {
         this.check = check;
         random = new Random(seed);
         run = "run " + seed;
+        calm = seed % 2 == 1;
     }
 
     public static void main(String[] args) {
@@ -30,6 +34,9 @@ public final class ModelTest {
     private void due(String call, long got, long want) {
         calls++;
         check.due(run + ", call " + calls + ", " + call, got, want);
+        if (calls > 512) {
+            throw new IllegalStateException(run + " has more calls than an object is promised for");
+        }
     }
 
     private void go() {
@@ -42,7 +49,7 @@ public final class ModelTest {
         }
         while (calls < CALLS) {
             any();
-            if (random.nextInt(8) == 0) {
+            if (random.nextInt(30) == 0) {
                 look();
             }
         }
@@ -60,15 +67,19 @@ public final class ModelTest {
         }
     }
 
+    private int players() {
+        return (int) model.count(0);
+    }
+
     private int someone() {
-        return about(0, Math.max(0, x.count(0) - 1));
+        return about(0, Math.max(0, players() - 1));
     }
 
     private void player() {
-        int kind = about(0, 6);
+        int kind = calm && random.nextInt(4) > 0 ? 0 : about(0, 6);
         int v = random.nextInt(40) == 0 ? about(0, 9) : random.nextInt(10);
         int seat = random.nextInt(40) == 0 ? about(0, 19) : random.nextInt(20);
-        int loud = random.nextInt(40) == 0 ? about(0, 99) : random.nextInt(random.nextBoolean() ? 100 : 25);
+        int loud = random.nextInt(40) == 0 ? about(0, 99) : random.nextInt(calm ? 15 : random.nextBoolean() ? 100 : 25);
         int pace = random.nextInt(40) == 0 ? about(1, 200) : 1 + random.nextInt(200);
         due("player(" + kind + ", " + v + ", " + seat + ", " + loud + ", " + pace + ")",
             x.player(kind, v, seat, loud, pace), model.player(kind, v, seat, loud, pace));
@@ -134,8 +145,7 @@ public final class ModelTest {
     }
 
     private void feed(int sign) {
-        // The text is not counted among the calls: a run would be all text.
-        check.due(run + ", feed(" + sign + ")", x.feed(sign), model.feed(sign));
+        due("feed(" + sign + ")", x.feed(sign), model.feed(sign));
     }
 
     private void look() {
@@ -143,8 +153,8 @@ public final class ModelTest {
             due("told(" + what + ")", x.told(what), model.told(what));
             due("count(" + what + ")", x.count(what), model.count(what));
         }
-        for (int p = 0; p < x.count(0); p++) {
-            for (int what = 0; what <= 10; what++) {
+        for (int p = 0; p < players(); p++) {
+            for (int what = 3; what <= 10; what++) {
                 due("of(" + p + ", " + what + ")", x.of(p, what), model.of(p, what));
             }
         }
@@ -201,7 +211,7 @@ public final class ModelTest {
 
     private void tell() {
         int p = random.nextInt(9) == 0 ? -1 : someone();
-        int pace = random.nextInt(3) == 0 ? about(1, 200) : Math.max(1, x.on(random.nextInt(3), 10 + p));
+        int pace = random.nextInt(3) == 0 ? about(1, 200) : Math.max(1, (int) model.on(random.nextInt(3), 10 + p));
         int n = random.nextInt(3) == 0 ? about(0, 8) : random.nextInt(3);
         switch (random.nextInt(3)) {
             case 0: due("see(" + p + ", " + pace + ", " + n + ")", x.see(p, pace, n), model.see(p, pace, n)); break;
@@ -223,7 +233,7 @@ public final class ModelTest {
                 due("tape(" + tape + ", " + sort + ", " + n + ")", x.tape(tape, sort, n), model.tape(tape, sort, n));
                 break;
             case 1: case 2:
-                long v = random.nextInt(3) == 0 ? random.nextLong() >> random.nextInt(64) : x.of(random.nextInt(6), 4);
+                long v = random.nextInt(3) == 0 ? random.nextLong() >> random.nextInt(64) : model.of(random.nextInt(6), 4);
                 due("item(" + tape + ", " + i + ", " + v + ")", x.item(tape, i, v), model.item(tape, i, v));
                 break;
             case 3: due("read(" + tape + ", " + i + ")", x.read(tape, i), model.read(tape, i)); break;
@@ -235,10 +245,10 @@ public final class ModelTest {
                     x.shift(tape, i, other, j, n), model.shift(tape, i, other, j, n));
                 break;
             default:
-                for (int p = 0; p < x.count(0); p++) {
+                for (int p = 0; p < players(); p++) {
                     if (random.nextInt(9) > 0) {
-                        x.item(tape, i + p, x.of(p, 4));
-                        model.item(tape, i + p, model.of(p, 4));
+                        v = model.of(p, 4);
+                        due("item(" + tape + ", " + (i + p) + ", " + v + ")", x.item(tape, i + p, v), model.item(tape, i + p, v));
                     }
                 }
                 due("judge(" + tape + ", " + i + ")", x.judge(tape, i), model.judge(tape, i));
@@ -276,7 +286,7 @@ public final class ModelTest {
                 int act = about(0, 2);
                 int y = random.nextBoolean() ? random.nextInt(20) - 5 : random.nextInt();
                 due("act(" + p + ", " + act + ", " + y + ")", x.act(p, act, y), model.act(p, act, y));
-                for (int t = -1; t < 9; t++) {
+                for (int t = random.nextInt(12) - 1; t < 13; t += 4) {
                     due("trace(" + t + ")", x.trace(t), model.trace(t));
                 }
                 break;
