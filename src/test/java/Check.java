@@ -16,6 +16,10 @@ final class Check {
         }
     }
 
+    int asked() {
+        return asked;
+    }
+
     void due(String what, boolean is) {
         due(what, is ? 1 : 0, 1);
     }
