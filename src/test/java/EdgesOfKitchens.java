@@ -111,8 +111,11 @@ final class EdgesOfKitchens extends Edges {
         });
         holds(8, "without one there are no CLAUSES.", () -> {
             LidsAndCombs x = loud(10, 10);
-            for (int n = 0; n < 4; n++) {
-                due("a fault", Check.kitchen(x, "louder 5 p=0;softer 2 p=1&p=1|p=0;step 9;wake 9;pay 9;louder 3 p=0?"), -76);
+            for (int n = 0; n < 3; n++) {
+                due("a fault", Check.kitchen(x, "step 9;wake 9;pay 9;louder 5 p=0" + "|p=0".repeat(16) + "?"), -106);
+            }
+            for (int n = 0; n < 2; n++) {
+                due("a fault", Check.kitchen(x, "louder 5 p=0;softer 2 p=1&p=1|p=0;louder 3 p=0?"), -56);
             }
             due("MORE behind faults alone", x.of(0, 10), 0);
             told(x, 2, 60, 5);
