@@ -155,6 +155,13 @@ final class EdgesOfGoals extends Edges {
                 due("by its row, beat " + beat, x.of(0, 9), goals[beat]);
                 x.pass(1);
             }
+            x = nobody();
+            x.image();
+            x.player(TOLD, 0, 0, 0, 60);
+            x.row(0, 0, 9);
+            x.undo();
+            x.player(TOLD, 0, 0, 0, 60);
+            due("0 at first, where a told one was", x.of(0, 9), 60);
             x = goer(TOLD, 1, 0);
             x.row(0, 1, 9);
             x.pass(1);

@@ -222,6 +222,10 @@ final class EdgesOfPlayers extends Edges {
                 for (int other = 0; other < 3; other++) {
                     due("what else is of it", x.of(1, 2 + other), other == what ? bounds[what][1] : 7);
                 }
+                x.hush(1, true);
+                due("of a still one", x.set(1, what, 9), bounds[what][1]);
+                due("is so", x.of(1, 2 + what), 9);
+                due("it is still", x.of(1, 5), 1);
             }
         });
         holds(4, "NONE;", () -> {
